@@ -828,15 +828,15 @@ public final class BeetHouse {
         /** Of heaps with equal waste the first stays chosen: they stand by their FIELDS' numbers. */
         private void choose(int eaten) {
             int ends = Math.min(begins[eaten], LAST_HOUR) / DAY_HOURS - now / DAY_HOURS;
-            int chosen = NONE;
-            int least = 0;
+            int chosen = 0;
+            int least = Integer.MAX_VALUE;
             for (int heap = 0; heap < size; heap++) {
                 int bit = 1 << heap;
                 if ((eaten & bit) != 0) {
                     continue;
                 }
                 int waste = wasteByEnds[heap][ends] + leastAfter[eaten + bit];
-                if (chosen == NONE || waste < least) {
+                if (waste < least) {
                     chosen = heap;
                     least = waste;
                 }
