@@ -682,7 +682,6 @@ public final class BeetHouse {
         private void comeHome() {
             state = HOME;
             plot = null;
-            there = NONE;
             roots = 0;
             sugar = 0;
         }

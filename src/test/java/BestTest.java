@@ -10,6 +10,7 @@ public final class BestTest {
         lastHour();
         asTheyAre();
         longWay();
+        oneRoot();
         eightHeaps();
         refusals();
         Due.end();
@@ -122,6 +123,14 @@ public final class BestTest {
         order("three small ones first", x, 0, 1, 2, 3, 0);
         x.hours(10);
         order("at hour 11 one of them waits behind the long one", x, 12 + 12 + 12 + 12 + 11, 1, 2, 0, 3);
+    }
+
+    private static void oneRoot() {
+        BeetHouse x = heaps(1, 1, 250, 0, 30, 50, 0);
+        x.table(5, 100);
+        order("a heap of one root", x, 0, 0, 1);
+        x.hours(22);
+        order("a heap of one root at hour 23", x, 25 + 22, 1, 0);
     }
 
     private static void eightHeaps() {

@@ -4,6 +4,7 @@ import java.util.function.Consumer;
 public final class HoursTest {
     public static void main(String[] args) {
         loadsTakeTheirShare();
+        oneRoot();
         inOneHour();
         drowned();
         emptyLorryWaitsToo();
@@ -45,6 +46,28 @@ public final class HoursTest {
         }
         Due.is("load(3, 0)", x.load(3, 0), -9);
         Due.is("fieldOf(0, 8)", x.fieldOf(0, 8), 7);
+    }
+
+    private static void oneRoot() {
+        BeetHouse x = new BeetHouse();
+        x.field(1, 1, 99, 1, false);
+        x.gang(0, 1, 0);
+        x.price(3, 7);
+        x.lorry(1);
+        x.hours(1);
+        Due.is("frost(true)", x.frost(true), 1);
+        Due.is("frost(false)", x.frost(false), 1);
+        Due.is("next()", x.next(), 1);
+        Due.is("turn()", x.turn(), 0);
+        x.hours(1);
+        Due.is("lorryOf(0, 4)", x.lorryOf(0, 4), 99);
+        x.hours(1);
+        Due.is("coins(1)", x.coins(1), 7);
+        Due.is("load(0, 2)", x.load(0, 2), 99);
+        x.send(0, 0);
+        x.hours(1);
+        Due.is("lorryOf(0, 3) of an empty heap", x.lorryOf(0, 3), 0);
+        Due.is("lorryOf(0, 4) of an empty heap", x.lorryOf(0, 4), 0);
     }
 
     /** Lifted, taken; back, unloaded, eaten: each pair within one hour. */

@@ -5,6 +5,7 @@ public final class TurnsTest {
     public static void main(String[] args) {
         owed();
         nextByOwed();
+        nextOfEqualsInAnyOrder();
         nextBySpareRoots();
         turnBySugar();
         turnTakesTheFirstHome();
@@ -63,6 +64,21 @@ public final class TurnsTest {
         Due.is("next() still the greatest", x.next(), 4);
         x.share(4, 0);
         Due.is("next() equal again", x.next(), 2);
+    }
+
+    private static void nextOfEqualsInAnyOrder() {
+        int[][] farmers = {{2, 4, 3}, {4, 3, 2}, {3, 2, 4}};
+        for (int[] f : farmers) {
+            BeetHouse x = new BeetHouse();
+            for (int i = 0; i < 3; i++) {
+                x.field(f[i], 100, 100, 1, false);
+                x.gang(i, 50, i);
+            }
+            x.hours(1);
+            Due.is("next() of equals", x.next(), 2);
+            x.lorry(1);
+            Due.is("turn() of equals", x.fieldOf(x.turn(), 9), 2);
+        }
     }
 
     private static void nextBySpareRoots() {
