@@ -6,6 +6,7 @@ public final class EdgeBestTest {
         stonyTwice();
         upToTheHourInWhichItBegins();
         noneBehindTheLastHour();
+        allHundredDays();
         warmthOfEachDay();
         asItIsNow();
         spoilingIsNotLookedAt();
@@ -29,7 +30,7 @@ public final class EdgeBestTest {
         Due.is("order(" + fields.length + ") " + when, x.order(fields.length), -9);
     }
 
-    /** Two heaps alike of SWEET 100, up to 200 roots each; nothing has wasted up to the hour; then the table has 10. */
+    /** Two heaps alike of SWEET 100, up to 200 roots for each hour; nothing has wasted up to the hour; then the table has 10. */
     private static BeetHouse two(int hour, int roots, boolean stony, int rate) {
         BeetHouse x = new BeetHouse();
         for (int f = 0; f < 2; f++) {
@@ -104,6 +105,19 @@ public final class EdgeBestTest {
         for (int[] c : cases) {
             BeetHouse x = two(c[0], c[1], false, 1);
             best("at hour " + c[0] + ", the other begins at " + (c[0] + c[1]), x, wasted(100 * c[1], c[2], 10), 0, 1);
+        }
+    }
+
+    /** Heaps that lie on DAY 0, and one that begins at 2399, at 2400 or long behind it. */
+    private static void allHundredDays() {
+        Due.says("at each DAY's end behind now: all 100 of them");
+        int[][] cases = {{2376, 99}, {2377, 100}, {2378, 100}, {4600, 100}};
+        for (int[] c : cases) {
+            BeetHouse x = two(23, c[0], false, 1);
+            best("from hour 23, the other begins at " + (23 + c[0]), x, wasted(100 * c[0], c[1], 10), 0, 1);
+            x.works(1, 300);
+            int ends = (23 + (c[0] + 299) / 300) / 24;
+            best("from hour 23 with RATE 300", x, wasted(100 * c[0], ends, 10), 0, 1);
         }
     }
 
