@@ -824,9 +824,15 @@ public final class BeetHouse {
             }
         }
 
+        /** What the heap wastes if it begins behind those that are eaten. */
+        private int wasteOfWaiting(int heap, int eaten) {
+            int ends = Math.min(begins[eaten], LAST_HOUR) / DAY_HOURS - now / DAY_HOURS;
+            int[] waste = wasteByEnds[heap];
+            return ends >= 0 && ends < waste.length ? waste[ends] : 0;
+        }
+
         /** Of heaps with equal waste the first stays chosen: they stand by their FIELDS' numbers. */
         private void choose(int eaten) {
-            int ends = Math.min(begins[eaten], LAST_HOUR) / DAY_HOURS - now / DAY_HOURS;
             int chosen = 0;
             int least = Integer.MAX_VALUE;
             for (int heap = 0; heap < size; heap++) {
@@ -834,7 +840,7 @@ public final class BeetHouse {
                 if ((eaten & bit) != 0) {
                     continue;
                 }
-                int waste = wasteByEnds[heap][ends] + leastAfter[eaten + bit];
+                int waste = wasteOfWaiting(heap, eaten) + leastAfter[eaten + bit];
                 if (waste < least) {
                     chosen = heap;
                     least = waste;
@@ -853,10 +859,12 @@ public final class BeetHouse {
                 return NONE;
             }
             int eaten = 0;
+            int heap = chosenAfter[0];
             for (int i = 0; i < place; i++) {
-                eaten |= 1 << chosenAfter[eaten];
+                eaten |= 1 << heap;
+                heap = eaten >= 0 && eaten < SETS ? chosenAfter[eaten] : 0;
             }
-            return numbers[chosenAfter[eaten]];
+            return heap >= 0 && heap < size ? numbers[heap] : NONE;
         }
     }
 }

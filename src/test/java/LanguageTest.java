@@ -24,6 +24,7 @@ public final class LanguageTest {
         face();
         classes();
         words();
+        library();
         lengths();
         Due.end();
     }
@@ -69,6 +70,7 @@ public final class LanguageTest {
         Due.holds("at most twelve classes", inside.length < 12);
         for (Class<?> c : inside) {
             int mods = c.getModifiers();
+            Due.holds(c + " has no class inside it, and is in no method", c.getDeclaredClasses().length == 0 && c.getEnclosingMethod() == null);
             Due.holds(c + " is static and not public", Modifier.isStatic(mods) && !Modifier.isPublic(mods) && !Modifier.isProtected(mods));
             fields(c);
         }
@@ -81,7 +83,7 @@ public final class LanguageTest {
             boolean constant = Modifier.isStatic(f.getModifiers());
             own += constant ? 0 : 1;
             Due.holds(f + " is private", Modifier.isPrivate(f.getModifiers()));
-            Due.holds(f + " is final if it is static", !constant || Modifier.isFinal(f.getModifiers()));
+            Due.holds(f + " is final if it is static, and a number", !constant || (Modifier.isFinal(f.getModifiers()) && f.getType() == int.class));
         }
         Due.holds(c + " has at most twenty fields", own <= 20);
     }
@@ -103,6 +105,30 @@ public final class LanguageTest {
         for (char c : source().toCharArray()) {
             Due.holds("sign " + (int) c, c == '\n' || (c >= 32 && c < 127));
         }
+    }
+
+    /** What is called behind a dot, and what is made: the file's own, or what rule 4 lists. */
+    private static void library() throws Exception {
+        String bare = source().replaceAll("(?s)/\\*.*?\\*/", " ").replaceAll("//[^\n]*", " ");
+        TreeSet<String> known = new TreeSet<>(List.of("size", "get", "add", "remove", "isEmpty", "min"));
+        TreeSet<String> makes = new TreeSet<>(List.of("ArrayList", "int"));
+        List<Class<?>> all = new ArrayList<>(List.of(BeetHouse.class.getDeclaredClasses()));
+        all.add(BeetHouse.class);
+        for (Class<?> c : all) {
+            makes.add(c.getSimpleName());
+            for (Method m : c.getDeclaredMethods()) {
+                known.add(m.getName());
+            }
+        }
+        Matcher calls = Pattern.compile("\\.\\s*(\\w+)\\s*\\(").matcher(bare);
+        while (calls.find()) {
+            Due.holds("call of " + calls.group(1), known.contains(calls.group(1)));
+        }
+        Matcher made = Pattern.compile("\\bnew\\s+(\\w+)").matcher(bare);
+        while (made.find()) {
+            Due.holds("new " + made.group(1), makes.contains(made.group(1)));
+        }
+        Due.holds("each loop is a for with a counter", !Pattern.compile("\\b(while|do)\\b|for \\([^;()]*:").matcher(bare).find());
     }
 
     /** A method begins with a line that ends in ") {" at the depth of a class's members. */
